@@ -850,7 +850,7 @@ public final class SegmentYard {
         }
 
         boolean isTwin(int segment, int type, int parent) {
-            boolean isThere = segment >= 0 && segment < MOST_SEGMENTS && types[segment] != NONE;
+            boolean isThere = segment >= 0 && segment < MOST_SEGMENTS;
             return isThere && types[segment] == type && parents[segment] == parent;
         }
 

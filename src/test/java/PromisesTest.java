@@ -135,10 +135,15 @@ public final class PromisesTest {
         x.argument(0, 0);
         Due.is("a new view sees no types", SegmentYard.BAD, x.insert(0));
         x.open(1, 0, 1);
-        x.argument(0, 0);
-        Due.is("insert(1)", SegmentYard.OK, x.insert(1));
+        Due.is("insert(1)", SegmentYard.OK, one(x, 1, 0, 5));
         Due.is("a new view sees no segments", SegmentYard.NOT_FOUND, x.get(0, SegmentYard.UNIQUE_GET, false));
-        Due.is("a new view has database 0", 0, x.ahead(0));
+        one(x, 1, 0, 4);
+        one(x, 1, 0, 3);
+        row(x, 0, 3, 4, 5);
+        Due.is("a new view is ahead of all", 0, x.ahead(0));
+        Due.is("and at none", NONE, x.at(0));
+        Due.is("and has no parent", NONE, x.parent(0));
+        Due.is("and sees none to get next", SegmentYard.END, x.get(0, SegmentYard.NEXT, false));
     }
 
     private static void type() {
