@@ -29,6 +29,14 @@ final class Due {
         }
     }
 
+    static void same(String what, String due, String answer) {
+        compared++;
+        if (!due.equals(answer)) {
+            wrong++;
+            System.out.println(part + ": " + what + " is\n  " + answer + "\n  due is\n  " + due);
+        }
+    }
+
     static void isTrue(String what, boolean is) {
         is(what, 1, is ? 1 : 0);
     }
@@ -51,6 +59,10 @@ final class Due {
             return e.getClass() == IllegalStateException.class ? STATE : 9;
         }
         return 0;
+    }
+
+    static int compared() {
+        return compared;
     }
 
     static boolean isAllRight() {

@@ -1,7 +1,5 @@
 /** A test for each promise: ordinary inputs, the edges that the document names, and wrong inputs. */
-public final class PromisesTest {
-    private static final int NONE = SegmentYard.NONE;
-    private static final int LOW = Integer.MIN_VALUE, HIGH = Integer.MAX_VALUE;
+public final class PromisesTest extends Yards {
     private static final int[] NO_DATABASES = {LOW, -1, 3, HIGH};
     private static final int[] NO_VIEWS = {LOW, -1, 4, HIGH};
     private static final int[] NO_NUMBERS = {LOW, -1, 1000, HIGH};
@@ -30,83 +28,6 @@ public final class PromisesTest {
         rows();
         viewAnswers();
         Due.end();
-    }
-
-    // ---- helpers
-
-    /** Database 0: the types 0 (root), 1 and 2 below it, 3 below 1, 4 below 3; database 1: 5 (root), 6 below it. */
-    private static SegmentYard yard() {
-        SegmentYard x = new SegmentYard();
-        x.type(0, NONE, SegmentYard.UNIQUE, SegmentYard.FIRST);
-        x.type(0, 0, SegmentYard.MANY, SegmentYard.LAST);
-        x.type(0, 0, SegmentYard.UNIQUE, SegmentYard.FIRST);
-        x.type(0, 1, SegmentYard.UNKEYED, SegmentYard.LAST);
-        x.type(0, 3, SegmentYard.UNIQUE, SegmentYard.FIRST);
-        x.type(1, NONE, SegmentYard.UNIQUE, SegmentYard.FIRST);
-        x.type(1, 5, SegmentYard.UNKEYED, SegmentYard.LAST);
-        x.open(0, 0, 4095);
-        x.open(1, 0, 4095);
-        x.open(2, 1, 4095);
-        return x;
-    }
-
-    private static void fill(SegmentYard x, int slot, int... fields) {
-        for (int field = 0; field < 3; field++) {
-            x.put(slot, field, field < fields.length ? fields[field] : 0);
-        }
-    }
-
-    /** Inserts one segment below the position of a view. */
-    private static int one(SegmentYard x, int view, int type, int... fields) {
-        fill(x, 0, fields);
-        x.argument(type, 0);
-        return x.insert(view);
-    }
-
-    private static int same(SegmentYard x, int type, int codes, int field, int number) {
-        x.argument(type, codes);
-        return x.condition(false, field, SegmentYard.SAME, number);
-    }
-
-    /** Brings a view to a segment of a type with a number in a field. */
-    private static void go(SegmentYard x, int view, int type, int field, int number) {
-        same(x, type, 0, field, number);
-        Due.is("going to " + type + " " + number, SegmentYard.OK, x.get(view, SegmentYard.UNIQUE_GET, false));
-    }
-
-    private static void hold(SegmentYard x, int view, int type, int field, int number) {
-        same(x, type, 0, field, number);
-        Due.is("holding " + type + " " + number, SegmentYard.OK, x.get(view, SegmentYard.UNIQUE_GET, true));
-    }
-
-    private static void row(SegmentYard x, int database, int... signs) {
-        Due.is("count(" + database + ")", signs.length, x.count(database));
-        for (int place = 0; place < Math.min(signs.length, x.count(database)); place++) {
-            Due.is("rowAt(" + database + ", " + place + ")", signs[place], x.rowAt(database, place));
-            Due.is("rowAnew(" + database + ", " + place + ")", signs[place], x.rowAnew(database, place));
-        }
-    }
-
-    private static void seconds(SegmentYard x, int database, int... numbers) {
-        for (int place = 0; place < numbers.length; place++) {
-            Due.is("fieldAt(" + database + ", " + place + ", 1)", numbers[place], x.fieldAt(database, place, 1));
-        }
-    }
-
-    /** Roots 10 and 20; below 10: two of type 1, below the first of these two of type 3; one of type 2. */
-    private static SegmentYard filled() {
-        SegmentYard x = yard();
-        one(x, 0, 0, 20, 1);
-        one(x, 0, 0, 10, 2);
-        one(x, 0, 1, 5, 3);
-        one(x, 0, 3, 7, 4);
-        go(x, 0, 1, 0, 5);
-        one(x, 0, 3, 2, 5);
-        go(x, 0, 0, 0, 10);
-        one(x, 0, 1, 6, 6);
-        one(x, 0, 2, 1, 7);
-        x.open(0, 0, 4095);
-        return x;
     }
 
     // ---- promises
@@ -838,22 +759,6 @@ public final class PromisesTest {
         x.delete(0);
         x.argument(1, 0);
         Due.is("at none there is no parent", SegmentYard.NOT_FOUND, x.insert(1));
-    }
-
-    /** Types 0 (root), 1 with MAKE and a rule for going, 2 below 1; database 1: 3 (root), 4 tied to 0 by the rule. */
-    private static SegmentYard tiedYard(int going, int otherGoing) {
-        SegmentYard x = new SegmentYard();
-        x.type(0, NONE, 0, 0);
-        x.type(0, 0, SegmentYard.UNKEYED, SegmentYard.LAST);
-        x.type(0, 1, SegmentYard.UNKEYED, SegmentYard.LAST);
-        x.type(1, NONE, 0, 0);
-        x.type(1, 3, SegmentYard.UNKEYED, SegmentYard.LAST);
-        x.tie(1, 0, SegmentYard.MAKE, going);
-        x.tie(4, 0, SegmentYard.MUST, otherGoing);
-        for (int view = 0; view < 4; view++) {
-            x.open(view, view / 2, 4095);
-        }
-        return x;
     }
 
     private static void tiedDeleting() {
