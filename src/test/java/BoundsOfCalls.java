@@ -222,7 +222,9 @@ final class BoundsOfCalls extends Yards {
         go(x, 0, 0, 0, 20);
         drop(x, 1, 0, 0, 20);
         is("behind all", OK, unique(x, 0));
-        is("the first of the row", 0, x.at(0));
+        stands("at the first of the row", x, 0, 0, 0);
+        is("the next one", OK, next(x, 0));
+        stands("at the next one", x, 0, 1, 1);
         drop(x, 1, 0, 0, 10);
         is("an empty row", NOT_FOUND, unique(x, 0));
         x.open(1, 0, 2);
@@ -892,6 +894,13 @@ final class BoundsOfCalls extends Yards {
         stands("at the only one", x, 0, 0, 0);
         is("the parent", 0, x.parent(0));
         is("nothing is below it", NOT_FOUND, within(x, 0));
+        go(x, 0, 0, 0, 1);
+        drop(x, 1, 0, 0, 1);
+        stands("behind all", x, 0, NONE, 1);
+        one(x, 1, 0, 5);
+        one(x, 0, 0, 4);
+        stands("at the new one, not behind all any more", x, 0, 1, 1);
+        is("the next one", OK, next(x, 0));
     }
 
     // ---- Replacing and deleting

@@ -131,12 +131,14 @@ final class BoundsOfPromises extends Yards {
             is("next", END, next(x, view));
             is("unique", NOT_FOUND, unique(x, view));
         }
-        x.open(0, 0, 1);
-        one(x, 0, 0, 5);
+        SegmentYard y = new SegmentYard();
+        y.type(0, NONE, UNIQUE, FIRST);
+        y.open(0, 0, 1);
+        one(y, 0, 0, 5);
         for (int view = 1; view < 4; view++) {
-            is("no segment is seen", END, next(x, view));
-            is("no segment is seen", NOT_FOUND, unique(x, view));
-            stands("ahead of all", x, view, NONE, 0);
+            stands("ahead of all, with a segment", y, view, NONE, 0);
+            is("no segment is seen", END, next(y, view));
+            is("no segment is seen", NOT_FOUND, unique(y, view));
         }
     }
 

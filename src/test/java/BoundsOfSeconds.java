@@ -149,6 +149,22 @@ final class BoundsOfSeconds extends Yards {
         one(x, 0, 0, 999);
         is("there is one anew", 3, x.second(1));
         is("tied to that", 1, tiedTo(x, 999));
+        x = inPlaceOfTheFirst(LOOSE);
+        is("in place of the first one", 0, x.second(1));
+        is("tied to that", 1, tiedTo(x, 5));
+    }
+
+    /** The first segment of all is deleted, and the next one that is inserted is tied, to the root 5. */
+    private static SegmentYard inPlaceOfTheFirst(int going) {
+        SegmentYard x = pair(MUST, going);
+        one(x, 0, 0, 5);
+        one(x, 1, 1, 2);
+        drop(x, 1, 1, 0, 1);
+        go(x, 1, 1, 0, 2);
+        is("in place of the first one", OK, one(x, 1, 2, 3, 0, 5));
+        row(x, 1, 1002, 2003);
+        is("its keys", 2003L, x.keys(1));
+        return x;
     }
 
     private static int tiedTo(SegmentYard x, int key) {
@@ -237,6 +253,13 @@ final class BoundsOfSeconds extends Yards {
         drop(x, 0, 0, 0, 4);
         is("even if there is none", OK, replaced(x, 2, 4, 4));
         row(x, 0, 0, 5, 999);
+        one(x, 1, 3, 999, 999, 999);
+        drop(x, 1, 3, 0, 999);
+        go(x, 1, 1, 0, 1);
+        is("in place of one that is deleted", OK, one(x, 1, 2, 999, 999, 700));
+        row(x, 0, 0, 5, 700, 999);
+        is("field 1", 0, x.fieldAt(0, 2, 1));
+        is("field 2", 0, x.fieldAt(0, 2, 2));
         for (int there = 57; there <= 60; there++) {
             makingWith(there);
         }
@@ -385,6 +408,9 @@ final class BoundsOfSeconds extends Yards {
         one(y, 1, 2, 1, 0, 1);
         drop(y, 1, 1, 0, 1);
         row(y, 0, 1);
+        y = inPlaceOfTheFirst(ALL);
+        drop(y, 0, 0, 0, 5);
+        row(y, 1, 1002);
     }
 
     private static void goingBound() {
@@ -406,6 +432,9 @@ final class BoundsOfSeconds extends Yards {
         is("bound to this one then", TIED, x.delete(0));
         drop(x, 1, 2, 0, 1);
         drop(x, 0, 0, 0, 6);
+        x = inPlaceOfTheFirst(BOUND);
+        hold(x, 0, 0, 0, 5);
+        is("in place of the first one", TIED, x.delete(0));
         boundBelow();
         boundAndAll(false);
         boundAndAll(true);

@@ -363,34 +363,40 @@ final class BoundsOfTerms extends Yards {
         says("New twins of a type that is MANY are put among those with the same key, new ones of a type that is UNKEYED"
             + " among all twins: by FIRST ahead of these, by LAST behind these; by HERE ahead of the segment at which"
             + " the view is that inserts, if that is one of these, otherwise ahead of all of these.");
-        firstAndLast(MANY, FIRST, 1000, 1004, 1005, 1005, 1006, 1999);
-        seconds(firstAndLast(MANY, FIRST), 0, 0, 6, 3, 4, 1, 2, 5);
-        firstAndLast(MANY, LAST, 1000, 1004, 1005, 1005, 1006, 1999);
-        seconds(firstAndLast(MANY, LAST), 0, 0, 6, 3, 1, 4, 2, 5);
-        firstAndLast(UNKEYED, FIRST, 1000, 1999, 1005, 1004, 1006, 1005);
-        firstAndLast(UNKEYED, LAST, 1005, 1006, 1004, 1005, 1999, 1000);
+        firstAndLast(MANY, FIRST, 1000, 1000, 1004, 1005, 1005, 1006, 1999);
+        seconds(firstAndLast(MANY, FIRST), 0, 0, 7, 3, 4, 5, 1, 2, 6);
+        firstAndLast(MANY, LAST, 1000, 1000, 1004, 1005, 1005, 1006, 1999);
+        seconds(firstAndLast(MANY, LAST), 0, 0, 3, 7, 4, 1, 5, 2, 6);
+        firstAndLast(MANY, HERE, 1000, 1000, 1004, 1005, 1005, 1006, 1999);
+        seconds(firstAndLast(MANY, HERE), 0, 0, 7, 3, 4, 5, 1, 2, 6);
+        firstAndLast(UNKEYED, FIRST, 1000, 1999, 1005, 1004, 1000, 1006, 1005);
+        firstAndLast(UNKEYED, LAST, 1005, 1006, 1000, 1004, 1005, 1999, 1000);
+        firstAndLast(UNKEYED, HERE, 1000, 1999, 1005, 1004, 1000, 1006, 1005);
         hereAmongTheSameKey();
         hereAmongAllTwins();
         hereOnlyAtATwin(MANY);
         hereOnlyAtATwin(UNKEYED);
     }
 
-    /** A root, and below it, told by the field 1, twins with the keys 5, 6, 4, 5, 999 and 0, by a view at none of them. */
+    /** A root, and below it, told by field 1, twins with the keys 5, 6, 0, 4, 5, 999, 0, by a view that is at the root. */
     private static SegmentYard firstAndLast(int keys, int rule) {
         SegmentYard x = here(keys, rule);
         one(x, 0, 0, 1);
-        int[] inserted = {5, 6, 4, 5, 999, 0};
+        int[] inserted = {5, 6, 0, 4, 5, 999, 0};
         for (int i = 0; i < inserted.length; i++) {
-            list(x, 0, 0, 1, 0);
-            fill(x, 0, inserted[i], i + 1);
-            x.insert(0);
+            go(x, 0, 0, 0, 1);
+            one(x, 0, 1, inserted[i], i + 1);
         }
         return x;
     }
 
     private static void firstAndLast(int keys, int rule, int... twins) {
         SegmentYard x = firstAndLast(keys, rule);
-        row(x, 0, 1, twins[0], twins[1], twins[2], twins[3], twins[4], twins[5]);
+        is("count", twins.length + 1, x.count(0));
+        for (int i = 0; i < twins.length; i++) {
+            is("the twin " + i, twins[i], x.rowAt(0, i + 1));
+            is("the twin " + i + " anew", twins[i], x.rowAnew(0, i + 1));
+        }
     }
 
     /** Type 0 (root), 1 below it, 2 below 1; the views 0 and 1 see all. */

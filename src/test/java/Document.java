@@ -22,7 +22,12 @@ final class Document {
     private Document() {
     }
 
+    /** Without the document the tests run all the same, but their sentences are not looked up. */
     static void read() throws IOException {
+        if (!Files.isReadable(PLACE)) {
+            System.out.println(PLACE + " is not there: no sentence is looked up");
+            return;
+        }
         boolean isCode = false;
         for (String line : Files.readAllLines(PLACE)) {
             if (line.startsWith("```")) {
@@ -46,26 +51,31 @@ final class Document {
         wasCompared();
         heading = newHeading;
         Due.part(heading);
-        Due.isTrue("the document has this section", texts.containsKey(heading));
+        Due.isTrue("the document has this section", texts.isEmpty() || texts.containsKey(heading));
     }
 
     /** Names a sentence of the section; what is compared from here on stands for it. */
     static void says(String sentence) {
         wasCompared();
         Due.part(heading + ": " + sentence);
-        int start = -1;
-        if (texts.containsKey(heading)) {
-            BitSet marks = named.get(heading);
-            start = texts.get(heading).indexOf(sentence);
-            while (start >= 0 && marks.get(start)) {
-                start = texts.get(heading).indexOf(sentence, start + 1);
-            }
-            if (start >= 0) {
-                marks.set(start, start + sentence.length());
-            }
-        }
-        Due.isTrue("the document says so, and no other test stands for it", start >= 0);
+        Due.isTrue("the document says so, and no other test stands for it", texts.isEmpty() || mark(sentence));
         comparedBefore = Due.compared();
+    }
+
+    /** Marks the first place of the section at which a sentence stands that is not marked yet; false, if there is none. */
+    private static boolean mark(String sentence) {
+        if (!texts.containsKey(heading)) {
+            return false;
+        }
+        BitSet marks = named.get(heading);
+        int start = texts.get(heading).indexOf(sentence);
+        while (start >= 0 && marks.get(start)) {
+            start = texts.get(heading).indexOf(sentence, start + 1);
+        }
+        if (start >= 0) {
+            marks.set(start, start + sentence.length());
+        }
+        return start >= 0;
     }
 
     /** Complains if nothing was compared for the sentence that was named last. */
